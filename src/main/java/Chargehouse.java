@@ -163,7 +163,6 @@ public final class Chargehouse {
         one.state = CHARGED;
         one.charges = offences;
         one.chargedOn = today;
-        one.daysWhileCharged = 0;
         return gravityOf(offences);
     }
 
@@ -711,6 +710,7 @@ public final class Chargehouse {
         boolean isReviewed;
         boolean isInCustody;
         int daysWhileOpen;
+        // Stays 0 while not charged: an answer to the charges sets it back.
         int daysWhileCharged;
         int extendedBy;
         int months;

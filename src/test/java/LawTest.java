@@ -111,6 +111,12 @@ public final class LawTest {
         check.fails("5: a seventh", Check.STATE, () -> x.file(3, 1, 0));
         check.fails("5: a seventh, out of range", Check.ARGUMENT, () -> x.file(3, 0, 0));
         check.fails("5: no file 6", Check.INDEX, () -> x.lacks(6, 0));
+        check.fails("5: no file 7", Check.INDEX, () -> x.lacks(7, 0));
+        check.fails("5: no file far above", Check.INDEX, () -> x.lacks(Integer.MAX_VALUE, 0));
+        check.fails("5: no file far below", Check.INDEX, () -> x.lacks(Integer.MIN_VALUE, 0));
+        check.fails("5: no person 9", Check.INDEX, () -> x.lacks(0, 9));
+        check.fails("5: no person far above", Check.INDEX, () -> x.lacks(0, Integer.MAX_VALUE));
+        check.fails("5: no person far below", Check.INDEX, () -> x.lacks(0, Integer.MIN_VALUE));
     }
 
     private static void nesting() {
