@@ -2,7 +2,6 @@ import java.util.ArrayList;
 import java.util.Arrays;
 import java.util.List;
 import java.util.TreeMap;
-import java.util.function.LongSupplier;
 
 /** All promises at once: long runs of calls, drawn by a fixed rule, against the diary in DiaryHouse. */
 public final class RandomRunsTest {
@@ -66,7 +65,7 @@ public final class RandomRunsTest {
             int[] a = arguments(name);
             name = name.split(" ")[0];
             String want = diary.outcome(name, a);
-            String got = Check.outcome(call(name, a));
+            String got = Calls.outcome(house, name, a);
             told.add(name + Arrays.toString(a) + " = " + want);
             check.note("run " + run + ", call " + call + ", " + name + Arrays.toString(a), want, got);
             if (!want.equals(got)) {
@@ -165,50 +164,5 @@ public final class RandomRunsTest {
     private int chargesOr(int file, int person) {
         String charges = diary.outcome("ofAccused", file, person, 1);
         return charges.startsWith("java") ? 1 : Integer.parseInt(charges) & someOffences();
-    }
-
-    private LongSupplier call(String name, int[] a) {
-        switch (name) {
-            case "offence": return () -> house.offence(a[0], a[1], a[2]);
-            case "exclude": return () -> house.exclude(a[0], a[1]) ? 1 : 0;
-            case "pass": return () -> house.pass(a[0]);
-            case "file": return () -> house.file(a[0], a[1], a[2]);
-            case "item": return () -> house.item(a[0], a[1], a[2], a[3], a[4], a[5] != 0);
-            case "admit": return nothing(() -> house.admit(a[0]));
-            case "show": return () -> house.show(a[0], a[1]);
-            case "withhold": return nothing(() -> house.withhold(a[0]));
-            case "charge": return () -> house.charge(a[0], a[1], a[2]);
-            case "drop": return nothing(() -> house.drop(a[0], a[1]));
-            case "review": return () -> house.review(a[0], a[1]) ? 1 : 0;
-            case "trial": return () -> house.trial(a[0], a[1]);
-            case "plea": return () -> house.plea(a[0], a[1], a[2]);
-            case "arrest": return () -> house.arrest(a[0], a[1]);
-            case "extend": return () -> house.extend(a[0], a[1], a[2]);
-            case "release": return nothing(() -> house.release(a[0], a[1]));
-            case "day": return () -> house.day();
-            default: return question(name, a);
-        }
-    }
-
-    private LongSupplier question(String name, int[] a) {
-        switch (name) {
-            case "nests": return () -> house.nests(a[0], a[1]) ? 1 : 0;
-            case "strength": return () -> house.strength(a[0], a[1], a[2], a[3]);
-            case "whyNot": return () -> house.whyNot(a[0], a[1], a[2], a[3]);
-            case "best": return () -> house.best(a[0], a[1], a[2]);
-            case "bestAnew": return () -> house.bestAnew(a[0], a[1], a[2]);
-            case "lacks": return () -> house.lacks(a[0], a[1]);
-            case "ofItem": return () -> house.ofItem(a[0], a[1]);
-            case "ofAccused": return () -> house.ofAccused(a[0], a[1], a[2]);
-            case "count": return () -> house.count(a[0]);
-            default: throw new UnsupportedOperationException(name);
-        }
-    }
-
-    private static LongSupplier nothing(Runnable call) {
-        return () -> {
-            call.run();
-            return 0;
-        };
     }
 }

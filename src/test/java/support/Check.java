@@ -1,3 +1,4 @@
+import java.util.function.IntToLongFunction;
 import java.util.function.LongSupplier;
 
 /** Collects what answered otherwise than is due; report() ends the program with 1 if anything did. */
@@ -27,6 +28,26 @@ final class Check {
             call.run();
             return 0;
         });
+    }
+
+    /** The range of one argument: both its ends are taken, and what lies right beyond or far away is not. */
+    void range(String what, int least, int most, Class<? extends RuntimeException> beyond, IntToLongFunction call) {
+        takes(what, call, least, most);
+        refuses(what, beyond, call, least - 1, most + 1, least - 256, most + 256, most + 65536,
+            Integer.MIN_VALUE, Integer.MIN_VALUE + least, Integer.MIN_VALUE + most, Integer.MAX_VALUE);
+    }
+
+    void takes(String what, IntToLongFunction call, int... values) {
+        for (int value : values) {
+            String got = outcome(() -> call.applyAsLong(value));
+            note(what + ", " + value + " is taken", "true", Boolean.toString(!got.startsWith("java.")));
+        }
+    }
+
+    void refuses(String what, Class<? extends RuntimeException> want, IntToLongFunction call, int... values) {
+        for (int value : values) {
+            fails(what + ", " + value, want, () -> call.applyAsLong(value));
+        }
     }
 
     /** What a call answered, or the name of what it threw. */
