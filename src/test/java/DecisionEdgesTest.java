@@ -336,6 +336,7 @@ public final class DecisionEdgesTest {
     /** The days are those behind the last charging, not the first. */
     private static void discountsAnew() {
         Chargehouse x = Houses.provenWithOffences(9);
+        x.pass(5);
         x.charge(0, 0, 1);
         x.pass(31);
         check.is("14: 31 days", 97, x.plea(0, 0, 1));

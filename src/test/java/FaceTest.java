@@ -53,6 +53,7 @@ public final class FaceTest {
         methods();
         constants();
         names();
+        asTheDocumentTells();
         sourceText();
         check.report("FaceTest");
     }
@@ -117,6 +118,24 @@ public final class FaceTest {
                 check.is(method + " has a name of its own", false, face.contains(method.getName()));
             }
         }
+    }
+
+    /** Each line of the document's face stands in the source too, with the names of its arguments and its throws. */
+    private static void asTheDocumentTells() throws IOException {
+        String document = Files.readString(Path.of("../shared/DOC.md"));
+        int begin = document.indexOf("public final class Chargehouse {");
+        String face = document.substring(begin, document.indexOf("```", begin));
+        String source = Files.readString(Path.of("src/main/java/Chargehouse.java")).replaceAll("\\s+", " ");
+        int declared = 0;
+        for (String line : face.split("\n")) {
+            String told = line.trim();
+            if (told.startsWith("public")) {
+                String due = told.endsWith(";") && !told.contains("=") ? told.replace(";", " {") : told;
+                check.is("in the source: " + due, true, source.contains(due));
+                declared++;
+            }
+        }
+        check.is("lines of the face", 31, declared);
     }
 
     private static void sourceText() throws IOException {

@@ -66,14 +66,6 @@ public final class FarArgumentsTest {
         return told.toString().split(";");
     }
 
-    private static int[] argumentsOf(String[] words) {
-        int[] a = new int[words.length - 1];
-        for (int k = 0; k < a.length; k++) {
-            a[k] = Integer.parseInt(words[k + 1]);
-        }
-        return a;
-    }
-
     /** An object is used for 512 calls at most. */
     private void beginAnew() {
         house = new Chargehouse();
@@ -81,7 +73,7 @@ public final class FarArgumentsTest {
         calls = begin.length;
         for (String line : begin) {
             String[] words = line.split(" ");
-            int[] a = argumentsOf(words);
+            int[] a = Calls.argumentsOf(words);
             check.note("to begin, " + line, diary.outcome(words[0], a), Calls.outcome(house, words[0], a));
         }
     }
@@ -89,7 +81,7 @@ public final class FarArgumentsTest {
     private void triesAll(String state) {
         for (String line : CALLS_TO_TRY) {
             String[] words = line.split(" ");
-            int[] good = argumentsOf(words);
+            int[] good = Calls.argumentsOf(words);
             tries(state, words[0], good);
             for (int one = 0; one < good.length; one++) {
                 triesOne(state, words[0], good, one);

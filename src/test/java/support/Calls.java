@@ -10,6 +10,21 @@ final class Calls {
         return Check.outcome(call(house, name, a));
     }
 
+    /** The same of a call that is told in one line: its name and its arguments. */
+    static String outcomeOfLine(Chargehouse house, String line) {
+        String[] words = line.split(" ");
+        return outcome(house, words[0], argumentsOf(words));
+    }
+
+    /** The numbers behind the name. */
+    static int[] argumentsOf(String[] words) {
+        int[] a = new int[words.length - 1];
+        for (int k = 0; k < a.length; k++) {
+            a[k] = Integer.parseInt(words[k + 1]);
+        }
+        return a;
+    }
+
     private static LongSupplier call(Chargehouse house, String name, int[] a) {
         switch (name) {
             case "offence": return () -> house.offence(a[0], a[1], a[2]);
